@@ -204,6 +204,14 @@ public final class BurstsTest {
         Check.due("22: the least watermark, whatever the last time", x.nextClosing(), 2);
         x.advance(20000);
         Check.refusing("22: all are closed", x, NO_ELEMENT, x::nextClosing);
+        BurstGrouper y = new BurstGrouper();
+        y.setGap(0, 5);
+        y.setGap(1, 50);
+        y.add(0, 20, 1);
+        y.add(1, 10, 1);
+        Check.due("22: the lesser gap, and the greater last time", y.nextClosing(), 0);
+        y.advance(26);
+        Check.due("22: closed ones are passed over", y.nextClosing(), 1);
     }
 
     private static void averageLength() {

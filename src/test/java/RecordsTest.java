@@ -13,6 +13,7 @@ public final class RecordsTest {
         closedBursts();
         lateRecords();
         fullOfRecords();
+        fullInOneBurst();
         wrongRecords();
         closingInOrder();
         finalFirings();
@@ -179,6 +180,26 @@ public final class RecordsTest {
         Check.due("28: the oldest of them", x.firing(0, 4), 3780);
         Check.due("6: all are removed", x.reset(), 100);
         Check.due("7: and there is room", x.add(0, 1, 1), 0);
+    }
+
+    private static void fullInOneBurst() {
+        BurstGrouper x = new BurstGrouper();
+        for (int k = 99; k >= 0; k--) {
+            Check.due("7: all in one", x.add(0, 20 * k, k), 99 - k);
+        }
+        Check.due("20: the first of a hundred", x.burstAt(0, 0), 99);
+        x.reset();
+        for (int k = 99; k > 0; k--) {
+            x.add(0, 20 * k, k);
+        }
+        x.setGap(0, 20);
+        Check.due("7: 99 merges at once", x.add(0, 0, 0), 0);
+        Check.due("24: 99 merges", x.mergeCount(), 99);
+        Check.due("13: one burst", x.burstCount(), 1);
+        for (int k = 0; k < 100; k++) {
+            Check.due("20: time " + k, x.record(0, k, true), 20 * k);
+            Check.due("20: value " + k, x.record(0, k, false), k);
+        }
     }
 
     private static void wrongRecords() {

@@ -56,6 +56,11 @@ public final class SavingTest {
         Check.due("36: all as it was", Picture.of(x), before);
         Check.due("36: numbers go on from there", x.add(7, 500, 1), 5);
         x.reset();
+        x.setTrigger(1);
+        for (int k = 0; k < 60; k++) {
+            x.add(k % 7 + 1, 9000 - 140 * k, -k);
+        }
+        x.advance(20000);
         Check.due("36: it stays saved", x.restore(), 5);
         Check.due("36: all as it was again", Picture.of(x), before);
         BurstGrouper y = worked();

@@ -185,6 +185,9 @@ public final class SettingsTest {
         Check.due("6: records that were kept", x.reset(), 3);
         Check.due("6: all as at first", Picture.of(x), fresh);
         Check.due("6: numbers begin again", x.add(0, 10, 1), 0);
+        Check.due("6: a number that was closed before is open", x.isClosed(0), false);
+        Check.due("6: and has not fired", x.burst(0, 5), 0);
+        Check.due("6: nor counts as having fired", x.standing(), 0);
         x.save();
         x.append('w');
         x.append('x');

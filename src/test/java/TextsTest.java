@@ -15,6 +15,7 @@ public final class TextsTest {
         entriesThatThrow();
         fullOfRecords();
         errorPositionStays();
+        signsOfAnOlderText();
         Check.end();
     }
 
@@ -189,6 +190,18 @@ public final class TextsTest {
         write(x, "w900;r0:299=1;");
         Check.due("33: late behind the watermark", x.read(), 2);
         Check.due("33: counted", x.lateCount(), 3);
+    }
+
+    private static void signsOfAnOlderText() {
+        BurstGrouper x = new BurstGrouper();
+        String older = "r0:1234=-123;";
+        for (int length = 1; length < older.length(); length++) {
+            write(x, older);
+            Check.due("33: a text", x.read(), 1);
+            write(x, older.substring(0, length));
+            Check.throwing("33: its beginning", ARGUMENT, x::read);
+            Check.due("34: at its end", x.errorPosition(), length);
+        }
     }
 
     private static void errorPositionStays() {
