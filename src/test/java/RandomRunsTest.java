@@ -4,10 +4,11 @@ public final class RandomRunsTest {
     private static final int CALLS = 512;
     private static final String[] QUESTIONS = {"watermark", "lateCount", "recordCount", "burstCount", "openCount",
             "nextClosing", "mergeCount", "firingCount", "balance", "standing", "errorPosition"};
-    private static final String[] TEXTS = {"r0:5=3;", "r1:0012=-07;w30;", "w1;w2;w9999;", "r0:1=1;r0:1=2;r0:1=3;r0:1=4;r0:1=5;",
-            "w;", "r8:1=1;", "r0:12345=1;", "r0:1=-;", "r0:1=1234;", "", "x", "r0:40=0;r0:60=-0;r0:50=-999;", "w40;r0:10=1;w5;",
-            "r1:100=5;w20", "r0:1=1; ", "w12345;", "r7:9999=999;", "r0:=1;", "r0;", "w60;r2:30=7;w90;r2:95=3;",
-            "w0;w0;w0;w0;w0;w0;w0;w0;w0;w0;w0;w0;w0;", "w0;w0;w0;w0;w0;w0;w0;w0;w0;w0;w0;w0;w0;w"};
+    private static final String[] TEXTS = {"r0:5=3;", "r1:0012=-07;w30;", "w1;w2;w9999;",
+            "r0:1=1;r0:1=2;r0:1=3;r0:1=4;r0:1=5;", "w;", "r8:1=1;", "r0:12345=1;", "r0:1=-;", "r0:1=1234;", "", "x",
+            "r0:40=0;r0:60=-0;r0:50=-999;", "w40;r0:10=1;w5;", "r1:100=5;w20", "r0:1=1; ", "w12345;",
+            "r7:9999=999;", "r0:=1;", "r0;", "w60;r2:30=7;w90;r2:95=3;", "w0;w0;w0;w0;w0;w0;w0;w0;w0;w0;w0;w0;w0;",
+            "w0;w0;w0;w0;w0;w0;w0;w0;w0;w0;w0;w0;w0;w"};
 
     private static long seed;
 
