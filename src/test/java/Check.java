@@ -1,3 +1,6 @@
+import java.util.function.Consumer;
+import java.util.function.Supplier;
+
 /** Counts checks that fail, and ends a test with exit code 1 if there was one. */
 final class Check {
     interface Call {
@@ -6,6 +9,7 @@ final class Check {
 
     private static int done = 0;
     private static int wrong = 0;
+    private static String about = "";
 
     private Check() {
     }
@@ -30,8 +34,21 @@ final class Check {
         done++;
         if (!holds) {
             wrong++;
-            System.out.println(what);
+            System.out.println(about + what);
         }
+    }
+
+    /** Makes the checks of a test under a title; an exception that the test does not expect is one that fails. */
+    static void under(String title, Call test) {
+        about = "[" + title + "] ";
+        int before = done;
+        try {
+            test.run();
+        } catch (RuntimeException e) {
+            that("threw " + e + " at " + e.getStackTrace()[0], false);
+        }
+        that("the test has no check", done > before);
+        about = "";
     }
 
     /** The call throws just this exception. */
@@ -50,6 +67,21 @@ final class Check {
         String before = Picture.of(x);
         throwing(what, due, call);
         due("the state after " + what, Picture.of(x), before);
+    }
+
+    /** The call throws just this exception, and nothing is different from an object that was not asked. */
+    static void refused(String what, Supplier<BurstGrouper> make, Class<? extends RuntimeException> due,
+            Consumer<BurstGrouper> call) {
+        BurstGrouper x = make.get();
+        throwing(what, due, () -> call.accept(x));
+        due("the whole state after " + what, Picture.whole(x), Picture.whole(make.get()));
+    }
+
+    /** The call answers, and nothing is different from an object that was not asked. */
+    static void asked(String what, Supplier<BurstGrouper> make, Consumer<BurstGrouper> call) {
+        BurstGrouper x = make.get();
+        call.accept(x);
+        due("the whole state after " + what, Picture.whole(x), Picture.whole(make.get()));
     }
 
     /** The call changes nothing that can be asked of the object. */

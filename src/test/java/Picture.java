@@ -35,6 +35,20 @@ final class Picture {
         return all.toString();
     }
 
+    /**
+     * Also the input and what was saved, which are seen only by using them: the object is not as it was afterwards.
+     * The input is ended and read, so that an entry that waits in it shows in what follows.
+     */
+    static String whole(Object x) {
+        StringBuilder all = new StringBuilder(of(x));
+        put(all, x, "append", ';');
+        put(all, x, "read");
+        all.append(of(x));
+        put(all, x, "restore");
+        all.append(of(x));
+        return all.toString();
+    }
+
     private static void putSettings(StringBuilder all, Object x) {
         putSetting(all, x, "setLateness");
         putSetting(all, x, "setTrigger");
