@@ -270,6 +270,11 @@ final class InputEdges {
         writeOver(y);
         Check.due("a few records and firings", y.restore(), 5);
         Check.due("as it was, too", Picture.of(y), before);
+        Check.due("one that had not fired has nothing to take back", y.fire(2), 1);
+        y.reset();
+        y.add(1, 5, 5);
+        y.restore();
+        Check.due("over a burst that has not fired", Picture.of(y), before);
     }
 
     /** Puts something else into every place for records, bursts, firings, settings and counts. */
