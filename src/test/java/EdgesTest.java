@@ -7,8 +7,9 @@ import java.nio.file.Path;
  * A sentence without a test of its own fails here, so that a new one is not forgotten.
  */
 public final class EdgesTest {
-    /** What these say is the answer that the other sentences of the same promise are about. */
-    private static final String[] WITHOUT_BOUNDARY = {"9: Returns the watermark", "10: Returns the number.",
+    /** What these say is free, or is what the other sentences of the same part or promise are about. */
+    private static final String[] WITHOUT_BOUNDARY = {"What it is: A grouper of records", "Not promised: How the state",
+        "Not promised: Use of one object", "9: Returns the watermark", "10: Returns the number.",
         "11: `time`: the time", "11: Returns true if it would be", "13: Returns the number.",
         "14: Returns the number.", "15: `burst`: the number", "15: Returns the number.", "16: `burst`: the number",
         "16: Returns true if it is", "17: `burst`: the number", "17: Returns true if this is so",
@@ -24,6 +25,7 @@ public final class EdgesTest {
 
     public static void main(String[] arguments) throws IOException {
         Sentences sentences = new Sentences(Files.readString(Path.of(arguments[1])));
+        WholeEdges.all(sentences);
         RecordEdges.all(sentences);
         FiringEdges.all(sentences);
         TextEdges.all(sentences);

@@ -4,18 +4,19 @@ import java.util.Set;
 
 /**
  * The sentences of the document, each behind the name of its part or the number of its promise, and which of them
- * were tested: so that no sentence is forgotten, and no test tells of one that is not there.
+ * were tested: so that no sentence is forgotten, and no test tells of one that is not there. The page of Java and the
+ * signatures are for FaceTest.
  */
 final class Sentences {
     private final Set<String> all = new LinkedHashSet<>();
     private final Set<String> tested = new HashSet<>();
 
     Sentences(String document) {
-        int start = document.indexOf("\n## Description\n");
-        int end = document.indexOf("\n## Not promised\n");
-        for (String part : document.substring(start, end).split("\n## ")) {
+        for (String part : document.split("\n## ")) {
             if (part.startsWith("Description\n")) {
                 takeDescription(part);
+            } else if (part.startsWith("What it is\n") || part.startsWith("Not promised\n")) {
+                takeBlocks(part.substring(0, part.indexOf('\n')), part);
             } else if (part.startsWith("Promise ")) {
                 takePromise(part.substring("Promise ".length(), part.indexOf(':')), part);
             }
@@ -29,6 +30,13 @@ final class Sentences {
             if (dot > 0 && text.substring(0, dot).matches("[A-Z][a-z ]+")) {
                 takeSentences(text.substring(0, dot), text.substring(dot + 2));
             }
+        }
+    }
+
+    private void takeBlocks(String name, String part) {
+        String[] blocks = part.split("\n\n");
+        for (int k = 1; k < blocks.length; k++) {
+            takeSentences(name, blocks[k].replace('\n', ' ').strip());
         }
     }
 
